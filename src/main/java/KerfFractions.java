@@ -598,7 +598,6 @@ public final class KerfFractions {
                 quotient.setLimb(at, takeOut(at));
             }
             quotient.settle(highest + 1);
-            rest.settle(rest.size);
             rest.lower(lift);
         }
 

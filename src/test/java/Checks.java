@@ -1,3 +1,4 @@
+import java.math.BigInteger;
 import java.util.ArrayList;
 import java.util.List;
 
@@ -8,12 +9,33 @@ final class Checks {
         long answer();
     }
 
+    /** Calls on a new object, the last of which makes a value. */
+    interface Recipe {
+        int make(KerfFractions x);
+    }
+
     private final String name;
+    private String sentence = "";
     private int right;
     private final List<String> wrong = new ArrayList<>();
 
     Checks(String name) {
         this.name = name;
+    }
+
+    /** Runs the test of one sentence of the document; what is wrong is printed with the sentence. */
+    void sentence(String text, Runnable test) {
+        sentence = "[" + text + "] ";
+        int before = right + wrong.size();
+        try {
+            test.run();
+        } catch (RuntimeException e) {
+            wrong.add(sentence + "threw " + e.getClass().getSimpleName());
+        }
+        if (right + wrong.size() == before) {
+            wrong.add(sentence + "tests nothing");
+        }
+        sentence = "";
     }
 
     void due(String what, long answer, long want) {
@@ -31,6 +53,37 @@ final class Checks {
     /** The call throws exactly this exception, and it is one that was written, not the machine's. */
     void dueThrows(String what, Class<?> want, Call call) {
         note(what, outcome(call), want.getSimpleName());
+    }
+
+    /** The lines are the same, or else the first one that is not is told. */
+    void dueSame(String what, List<String> answer, List<String> want) {
+        for (int i = 0; i < Math.min(answer.size(), want.size()); i++) {
+            if (!answer.get(i).equals(want.get(i))) {
+                note(what, answer.get(i), want.get(i));
+                return;
+            }
+        }
+        note(what, answer.size() + " lines", want.size() + " lines");
+    }
+
+    /**
+     * The recipe makes top / bottom, every digit of it. Numerator and denominator are read on
+     * objects of their own: with 241 digits each, one object would see more than its 512 calls.
+     */
+    void dueMade(String what, Recipe recipe, BigInteger top, BigInteger bottom) {
+        BigInteger common = top.gcd(bottom);
+        KerfFractions x = new KerfFractions();
+        int a = recipe.make(x);
+        if (a == KerfFractions.NONE) {
+            note(what, "NONE", "a value");
+            return;
+        }
+        due(what + ": sign", x.sign(a), top.signum());
+        due(what + ": numerator", Numbers.digits(x, a, 0), top.abs().divide(common).toString());
+        KerfFractions y = new KerfFractions();
+        int b = recipe.make(y);
+        due(what + ": number", b, a);
+        due(what + ": denominator", Numbers.digits(y, b, 1), bottom.divide(common).toString());
     }
 
     /** What a call answers, or the name of what it throws. */
@@ -51,7 +104,7 @@ final class Checks {
         if (answer.equals(want)) {
             right++;
         } else {
-            wrong.add(what + " answered " + answer + ", due is " + want);
+            wrong.add(sentence + what + " answered " + answer + ", due is " + want);
         }
     }
 

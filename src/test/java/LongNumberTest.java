@@ -2,8 +2,7 @@ import java.math.BigInteger;
 
 /** Numbers of many bits, of the kinds at which a division, a common divisor or a root goes wrong most easily. */
 public final class LongNumberTest {
-    private static final BigInteger ONE = BigInteger.ONE;
-    private static final int PIECE = 62;
+    private static final BigInteger ONE = Numbers.ONE;
 
     private final Checks checks = new Checks("LongNumberTest");
     private long drawn = 1;
@@ -47,119 +46,90 @@ public final class LongNumberTest {
         return number;
     }
 
-    /** Makes the whole number of long pieces, and answers its number. */
-    private static int make(KerfFractions x, BigInteger number) {
-        int pieces = (number.bitLength() + PIECE - 1) / PIECE;
-        int made = x.value(number.shiftRight(PIECE * Math.max(pieces - 1, 0)).longValueExact(), 1);
-        int power = x.value(1L << PIECE, 1);
-        for (int i = pieces - 2; i >= 0; i--) {
-            made = x.times(made, power);
-            long piece = number.shiftRight(PIECE * i).longValue() & ((1L << PIECE) - 1);
-            if (piece != 0) {
-                made = x.add(made, x.value(piece, 1));
-            }
-        }
-        return made;
-    }
-
-    private static int make(KerfFractions x, BigInteger top, BigInteger bottom) {
-        return x.over(make(x, top), make(x, bottom));
-    }
-
-    private void dueValue(String what, KerfFractions x, int a, BigInteger top, BigInteger bottom) {
-        BigInteger common = top.gcd(bottom);
-        checks.due(what, PromiseTest.show(x, a),
-            (top.signum() < 0 ? "-" : "") + top.abs().divide(common) + "/" + bottom.divide(common));
-    }
-
     private void divisionsWithAQuotientGuessedTooGreat() {
         // Guessing by the divisor's highest limbs gives 4 here, and the last limb alone says that it is 3.
         for (int lift = 0; lift < 4; lift++) {
-            BigInteger divisor = ONE.shiftLeft(90 - lift).add(ONE);
+            BigInteger divisor = Numbers.power(90 - lift).add(ONE);
             for (int times = 2; times < 9; times++) {
                 BigInteger number = divisor.multiply(BigInteger.valueOf(times)).subtract(ONE);
-                KerfFractions x = new KerfFractions();
-                int a = make(x, number, divisor);
-                dueValue("floor of " + number + " / " + divisor, x, x.round(a, 0, 1), BigInteger.valueOf(times - 1), ONE);
+                checks.dueMade("floor of " + number + " / " + divisor,
+                    x -> x.round(Numbers.make(x, number, divisor), 0, 1), BigInteger.valueOf(times - 1), ONE);
             }
         }
     }
 
     private void everyWidthUpTo800() {
         for (int width = 1; width <= 800; width += width > 780 ? 1 : 7) {
+            BigInteger most = Numbers.ones(width);
+            checks.dueMade("2^" + width + " - 1", x -> Numbers.make(x, most), most, ONE);
             KerfFractions x = new KerfFractions();
-            BigInteger most = ONE.shiftLeft(width).subtract(ONE);
-            int a = make(x, most);
+            int a = Numbers.make(x, most);
             checks.due("bits of 2^" + width + " - 1", x.bits(a), width + 1);
-            dueValue("2^" + width + " - 1", x, a, most, ONE);
             int b = x.add(a, x.value(1, 1));
             checks.due("2^" + width + " is put", b != KerfFractions.NONE, width < 800);
         }
     }
 
     private void fractionOfTwoPatterns(int run) {
-        KerfFractions x = new KerfFractions();
         BigInteger top = pattern(1 + draw(700));
         BigInteger bottom = pattern(1 + draw(800));
         String what = "run " + run + ": " + top + " / " + bottom;
-        int a = make(x, top, bottom);
-        dueValue(what, x, a, top, bottom);
-        dueValue("floor of " + what, x, x.round(a, 0, 1), top.divide(bottom), ONE);
+        checks.dueMade(what, x -> Numbers.make(x, top, bottom), top, bottom);
+        checks.dueMade("floor of " + what, x -> x.round(Numbers.make(x, top, bottom), 0, 1), top.divide(bottom), ONE);
         int bits = draw(201);
         BigInteger s = top.shiftLeft(2 * bits).divide(bottom).sqrt();
-        int root = x.root(a, bits);
-        dueValue("root by " + bits + " bits of " + what, x, x.end(root, 0), s, ONE.shiftLeft(bits));
-        int square = x.times(make(x, pattern(1 + draw(390))), x.value(1, 1));
-        square = x.times(square, square);
+        checks.dueMade("root by " + bits + " bits of " + what,
+            x -> x.end(x.root(Numbers.make(x, top, bottom), bits), 0), s, Numbers.power(bits));
+        KerfFractions x = new KerfFractions();
+        int side = Numbers.make(x, pattern(1 + draw(390)));
+        int square = x.times(side, side);
         int exact = x.root(square, bits);
         checks.due("both ends of an exact root, " + what, x.order(x.end(exact, 0), x.end(exact, 1)), 0);
-        checks.due("square of an exact root, " + what, x.order(x.times(x.end(exact, 0), x.end(exact, 1)), square), 0);
+        checks.due("an exact root, " + what, x.order(x.end(exact, 0), side), 0);
     }
 
     private void commonDivisorIsTakenOut(int run) {
-        KerfFractions x = new KerfFractions();
         BigInteger common = pattern(1 + draw(600));
         BigInteger top = common.multiply(pattern(1 + draw(200)));
         BigInteger bottom = common.multiply(pattern(1 + draw(200)));
-        int a = make(x, top, bottom);
-        dueValue("run " + run + ": " + top + " / " + bottom, x, a, top, bottom);
+        checks.dueMade("run " + run + ": " + top + " / " + bottom, x -> Numbers.make(x, top, bottom), top, bottom);
     }
 
     private void twoFractions(int run) {
-        KerfFractions x = new KerfFractions();
-        BigInteger[] n = new BigInteger[4];
-        for (int i = 0; i < 4; i++) {
-            n[i] = pattern(1 + draw(390));
-        }
-        int a = make(x, n[0], n[1]);
-        int b = x.times(make(x, n[2], n[3]), x.value(draw(2) == 0 ? 1 : -1, 1));
-        if (x.sign(b) < 0) {
-            n[2] = n[2].negate();
-        }
-        String what = "run " + run + ": " + n[0] + "/" + n[1] + ", " + n[2] + "/" + n[3];
-        BigInteger left = n[0].multiply(n[3]);
-        BigInteger right = n[2].multiply(n[1]);
-        BigInteger below = n[1].multiply(n[3]);
-        dueValue("sum, " + what, x, x.add(a, b), left.add(right), below);
-        dueValue("product, " + what, x, x.times(a, b), n[0].multiply(n[2]), below);
+        BigInteger a = pattern(1 + draw(390));
+        BigInteger b = pattern(1 + draw(390));
+        BigInteger size = pattern(1 + draw(390));
+        BigInteger c = draw(2) == 0 ? size : size.negate();
+        BigInteger d = pattern(1 + draw(390));
+        String what = "run " + run + ": " + a + "/" + b + ", " + c + "/" + d;
+        BigInteger left = a.multiply(d);
+        BigInteger right = c.multiply(b);
+        BigInteger below = b.multiply(d);
+        checks.dueMade("sum, " + what, x -> x.add(Numbers.make(x, a, b), Numbers.make(x, c, d)), left.add(right), below);
+        checks.dueMade("product, " + what, x -> x.times(Numbers.make(x, a, b), Numbers.make(x, c, d)), a.multiply(c), below);
         BigInteger side = BigInteger.valueOf(right.signum());
-        dueValue("quotient, " + what, x, x.over(a, b), left.multiply(side), right.abs());
-        checks.due("order, " + what, x.order(a, b), left.compareTo(right));
+        checks.dueMade("quotient, " + what, x -> x.over(Numbers.make(x, a, b), Numbers.make(x, c, d)),
+            left.multiply(side), right.abs());
+        KerfFractions x = new KerfFractions();
+        checks.due("order, " + what, x.order(Numbers.make(x, a, b), Numbers.make(x, c, d)), left.compareTo(right));
     }
 
     /** Euclid needs the most steps for these, and only the last of them tells that there is no common divisor. */
     private void fibonacciNumbers() {
-        BigInteger lesser = ONE;
-        BigInteger greater = ONE;
-        while (greater.add(lesser).bitLength() <= 800) {
-            BigInteger next = greater.add(lesser);
-            lesser = greater;
-            greater = next;
+        BigInteger before = ONE;
+        BigInteger last = ONE;
+        while (last.add(before).bitLength() <= 800) {
+            BigInteger next = last.add(before);
+            before = last;
+            last = next;
         }
+        BigInteger greater = last;
+        BigInteger lesser = before;
+        checks.dueMade("two Fibonacci numbers", x -> Numbers.make(x, greater, lesser), greater, lesser);
         KerfFractions x = new KerfFractions();
-        int a = make(x, greater, lesser);
-        dueValue("two Fibonacci numbers", x, a, greater, lesser);
+        int a = Numbers.make(x, greater, lesser);
         checks.due("product beyond 800 bits", x.times(a, a), KerfFractions.NONE);
-        dueValue("product of one and its reciprocal", x, x.times(a, x.over(x.value(1, 1), a)), ONE, ONE);
+        int product = x.times(a, x.over(x.value(1, 1), a));
+        checks.due("product of one and its reciprocal", Numbers.show(x, product), "1/1");
     }
 }

@@ -33,27 +33,10 @@ public final class PromiseTest {
         test.checks.end();
     }
 
-    /** A value as its digits tell it, like -3/4. */
-    static String show(KerfFractions x, int a) {
-        return (x.sign(a) < 0 ? "-" : "") + digits(x, a, 0) + "/" + digits(x, a, 1);
-    }
-
-    private static String digits(KerfFractions x, int a, int part) {
-        StringBuilder text = new StringBuilder();
-        for (int i = 0; i < 300; i++) {
-            try {
-                text.append(x.digit(a, part, i));
-            } catch (ArrayIndexOutOfBoundsException e) {
-                return text.toString();
-            }
-        }
-        return text + "..";
-    }
-
     private void dueValue(String what, KerfFractions x, int number, int wantNumber, String want) {
         checks.due(what + ": number", number, wantNumber);
         if (number == wantNumber && number != NONE) {
-            checks.due(what, show(x, number), want);
+            checks.due(what, Numbers.show(x, number), want);
         }
     }
 
@@ -77,7 +60,7 @@ public final class PromiseTest {
             checks.due("new: sign of " + a, x.sign(a), 0);
         }
         dueValue("new: value 0 is used", x, x.add(0, 149), 0, "0/1");
-        checks.due("new: value 149", show(x, 149), "0/1");
+        checks.due("new: value 149", Numbers.show(x, 149), "0/1");
         for (int root = 0; root < 40; root++) {
             checks.due("new: lower end of " + root, x.end(root, 0), 0);
             checks.due("new: upper end of " + root, x.end(root, 1), 0);
@@ -185,8 +168,8 @@ public final class PromiseTest {
     private void dueRoot(KerfFractions x, int a, int bits, int wantRoot, String lower, String upper) {
         int root = x.root(a, bits);
         checks.due("root " + a + " " + bits, root, wantRoot);
-        checks.due("lower end of " + root, show(x, x.end(root, 0)), lower);
-        checks.due("upper end of " + root, show(x, x.end(root, 1)), upper);
+        checks.due("lower end of " + root, Numbers.show(x, x.end(root, 0)), lower);
+        checks.due("upper end of " + root, Numbers.show(x, x.end(root, 1)), upper);
         checks.due("the upper end's number", x.end(root, 1), x.end(root, 0) + 1);
     }
 
@@ -381,7 +364,7 @@ public final class PromiseTest {
         checks.due("a weight is left", x.weight(7), true);
         checks.due("it is weight 0", x.share(9, 0), 9);
         checks.due("the last weight is 0", x.share(9, 31), 0);
-        checks.due("the values stay", show(x, 0), "1/2");
+        checks.due("the values stay", Numbers.show(x, 0), "1/2");
         dueUnchanged("after clearing the weights", x, 1, 0);
     }
 
@@ -440,16 +423,16 @@ public final class PromiseTest {
 
     private void promise14Digit() {
         KerfFractions x = of(-1050, 37, 0, 1, Long.MIN_VALUE, 1, 1000000000, 999999999, 1, 1000000007);
-        checks.due("digits", show(x, 0), "-1050/37");
+        checks.due("digits", Numbers.show(x, 0), "-1050/37");
         checks.due("the highest digit", x.digit(0, 0, 0), 1);
         checks.due("the lowest digit", x.digit(0, 0, 3), 0);
         checks.due("of the denominator", x.digit(0, 1, 1), 7);
         checks.due("of 0", x.digit(1, 0, 0), 0);
         checks.due("of 0's denominator", x.digit(1, 1, 0), 1);
-        checks.due("of 2^63", show(x, 2), "-9223372036854775808/1");
-        checks.due("of 10^9", show(x, 3), "1000000000/999999999");
-        checks.due("of 10^9 + 7", show(x, 4), "1/1000000007");
-        checks.due("of a value that none was put at", show(x, 149), "0/1");
+        checks.due("of 2^63", Numbers.show(x, 2), "-9223372036854775808/1");
+        checks.due("of 10^9", Numbers.show(x, 3), "1000000000/999999999");
+        checks.due("of 10^9 + 7", Numbers.show(x, 4), "1/1000000007");
+        checks.due("of a value that none was put at", Numbers.show(x, 149), "0/1");
         checks.dueThrows("digit 4 of four", INDEX, () -> x.digit(0, 0, 4));
         checks.dueThrows("digit 2 of two", INDEX, () -> x.digit(0, 1, 2));
         checks.dueThrows("digit 1 of 0", INDEX, () -> x.digit(1, 0, 1));
@@ -471,7 +454,7 @@ public final class PromiseTest {
         KerfFractions x = of(1, 1, 0, 7, 3, 4, -3, 4, Long.MIN_VALUE, 3, 1L << 31, (1L << 31) - 1, 1L << 62, (1L << 62) - 1);
         int[] want = {2, 0, 5, 5, 66, 63, 125};
         for (int a = 0; a < want.length; a++) {
-            checks.due("bits of " + show(x, a), x.bits(a), want[a]);
+            checks.due("bits of " + Numbers.show(x, a), x.bits(a), want[a]);
         }
         checks.due("bits of a value that none was put at", x.bits(149), 0);
         for (int no : NO_VALUES) {
@@ -510,8 +493,8 @@ public final class PromiseTest {
         checks.dueThrows("add 150 when all are put", INDEX, () -> x.add(150, 0));
         checks.dueThrows("round by rule 4 when all are put", ARGUMENT, () -> x.round(1, 4, 1));
         checks.dueThrows("turn to unit 6 when all are put", INDEX, () -> x.turn(1, 0, 6));
-        checks.due("the first value stays", show(x, 0), "0/1");
-        checks.due("the last value stays", show(x, 149), "149/1");
+        checks.due("the first value stays", Numbers.show(x, 0), "0/1");
+        checks.due("the last value stays", Numbers.show(x, 149), "149/1");
         checks.due("no root was used", x.end(0, 1), 0);
     }
 
@@ -537,7 +520,7 @@ public final class PromiseTest {
         checks.due("-1 / 2^799", x.bits(below), 801);
         checks.due("-1 / 2^800", x.times(below, 2), NONE);
         checks.due("1 / 2^1598", x.times(below, below), NONE);
-        checks.due("2^799 / 2^799", show(x, x.times(below, least)), "-1/1");
+        checks.due("2^799 / 2^799", Numbers.show(x, x.times(below, least)), "-1/1");
         checks.due("2^799 + 1 / 2^799", x.add(below, least), NONE);
         int most = x.add(least, x.add(least, 3));
         checks.due("2^800 - 1 is put", x.bits(most), 801);

@@ -33,29 +33,27 @@ public final class KerfFractions {
     // Newton's steps near a root double the right bits: some twelve do for 1200 bits.
     private static final int MOST_NEWTON_STEPS = 1000;
 
+    // Null where none was put yet: there the value is 0.
     private final Fraction[] values = new Fraction[VALUES];
+    private final Fraction zero = new Fraction(0, Whole.of(0), Whole.of(1));
     private int valuesPut;
     private final int[] ends = new int[ROOTS * ENDS];
     private int rootsUsed;
     private final long[] weights = new long[WEIGHTS];
     private int weightsTold;
 
+    private final Whole one = Whole.of(1);
+
     // Rows that every call uses anew: nothing of a call is kept in them.
     private final Whole newTop = new Whole(Whole.ROOM);
     private final Whole newBottom = new Whole(Whole.ROOM);
     private final Whole left = new Whole(Whole.ROOM);
     private final Whole right = new Whole(Whole.ROOM);
-    private final Whole one = new Whole(1);
     private final int[] digits = new int[MOST_GROUPS * GROUP_DIGITS];
     private final Divider divider = new Divider();
     private final Measure measure = new Measure();
 
     public KerfFractions() {
-        one.setMagnitude(1);
-        Fraction zero = new Fraction(0, newTop, one);
-        for (int i = 0; i < values.length; i++) {
-            values[i] = zero;
-        }
     }
 
     public int value(long above, long below) throws ArithmeticException {
@@ -235,7 +233,8 @@ public final class KerfFractions {
         if (number < 0 || number >= values.length) {
             throw new ArrayIndexOutOfBoundsException("no such value");
         }
-        return values[number];
+        Fraction put = values[number];
+        return put != null ? put : zero;
     }
 
     private static long unitLength(int unit) throws ArrayIndexOutOfBoundsException {
@@ -406,6 +405,7 @@ public final class KerfFractions {
         private static final long LIMB_MASK = (1L << LIMB_BITS) - 1;
         // The longest number is a sum of 1601 bits, in a division up to 30 bits longer.
         private static final int ROOM = 56;
+        private static final int LONG_LIMBS = 3;
 
         private final long[] limbs;
         // The limbs in use; what stands in those above is not read. The highest in use is not 0.
@@ -413,6 +413,12 @@ public final class KerfFractions {
 
         Whole(int room) {
             limbs = new long[Math.max(room, 0)];
+        }
+
+        static Whole of(long number) {
+            Whole made = new Whole(LONG_LIMBS);
+            made.setMagnitude(number);
+            return made;
         }
 
         static Whole copyOf(Whole other) {
@@ -484,11 +490,11 @@ public final class KerfFractions {
         void setMagnitude(long number) {
             // The least long stays as it is here, and is 2^63 when its bits are read without a sign.
             long rest = number < 0 ? -number : number;
-            for (int i = 0; i < 3; i++) {
+            for (int i = 0; i < LONG_LIMBS; i++) {
                 setLimb(i, rest & LIMB_MASK);
                 rest >>>= LIMB_BITS;
             }
-            settle(3);
+            settle(LONG_LIMBS);
         }
 
         void setSum(Whole x, Whole y) {
